@@ -550,7 +550,6 @@ public final class TakeOver {
 
     /** When one more load, left in an hour, is at another end; NONE if it is not by the hour until. */
     private int arrival(int load, int to, int hour, int until) {
-        told.loads.hour[load] = hour;
         course.plan.come[hour] |= 1 << load;
         think();
         course.watch(load, to);
@@ -831,7 +830,6 @@ public final class TakeOver {
                 return false;
             }
             take[lines] = takes ? 1 : 0;
-            start[lines] = size;
             return true;
         }
 
@@ -874,35 +872,41 @@ public final class TakeOver {
                     }
                 } else if (top > 1) {
                     top--;
-                    stack[top - 1] = joined(-c, stack[top - 1], stack[top]);
+                    int right = stack[top];
+                    int left = stack[top - 1];
+                    switch (-c) {
+                        case T_PLUS:
+                            left += right;
+                            break;
+                        case T_MINUS:
+                            left -= right;
+                            break;
+                        case T_TIMES:
+                            left *= right;
+                            break;
+                        case T_PART:
+                            left = right == 0 ? 0 : left / right;
+                            break;
+                        case T_LESS:
+                            left = left < right ? 1 : 0;
+                            break;
+                        case T_SAME:
+                            left = left == right ? 1 : 0;
+                            break;
+                        case T_MORE:
+                            left = left > right ? 1 : 0;
+                            break;
+                        case T_AND:
+                            left &= right;
+                            break;
+                        default:
+                            left |= right;
+                            break;
+                    }
+                    stack[top - 1] = left;
                 }
             }
             return top == 0 || stack[0] != 0;
-        }
-
-        private static int joined(int sign, int a, int b) {
-            switch (sign) {
-                case T_PLUS:
-                    return a + b;
-                case T_MINUS:
-                    return a - b;
-                case T_TIMES:
-                    return a * b;
-                case T_PART:
-                    return b == 0 ? 0 : a / b;
-                case T_LESS:
-                    return a < b ? 1 : 0;
-                case T_SAME:
-                    return a == b ? 1 : 0;
-                case T_MORE:
-                    return a > b ? 1 : 0;
-                case T_AND:
-                    return a & b;
-                case T_OR:
-                    return a | b;
-                default:
-                    return 0;
-            }
         }
 
         void copyFrom(Law other) {

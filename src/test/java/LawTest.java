@@ -6,6 +6,8 @@ public final class LawTest {
         faultsOfDepth();
         faultsOfLines();
         lawStaysWhenFaulty();
+        oneTextBehindAnother();
+        sixteenLines();
         conditions();
         lines();
         Due.end();
@@ -54,6 +56,16 @@ public final class LawTest {
         bad("take;5", 1, 5);
         bad("taker;", 1, 0);
         bad("takeX;", 1, 0);
+        bad("takea;", 1, 0);
+        bad("takez;", 1, 0);
+        bad("takeA;", 1, 0);
+        bad("takeZ;", 1, 0);
+        bad("take@;", 1, 4);
+        bad("take[;", 1, 4);
+        bad("take`;", 1, 4);
+        bad("take{;", 1, 4);
+        bad("take when 1:=1;", 1, 11);
+        bad("take when 1<2/1/0;", 2, 16);
         bad("Take;", 1, 0);
         bad("take when;", 1, 9);
         bad("take when", 1, 9);
@@ -139,6 +151,49 @@ public final class LawTest {
         Due.is("11: no fault any more", x.fault(1), -1);
         Due.is("10: an empty text is the law", Due.law(x, ""), 0);
         Due.is("10: no lines", x.look(7), 0);
+    }
+
+    /** What one text left open, or put, is not there for the next. */
+    private static void oneTextBehindAnother() {
+        TakeOver x = new TakeOver();
+        String deep = "leave when " + "(".repeat(8) + "1=1" + ")".repeat(8) + ";";
+        String longer = "leave when 1=2" + " or 1=2".repeat(50) + ";";
+        for (int i = 0; i < 12; i++) {
+            Due.is("10: left open", Due.law(x, "take when not(not((1+2*3<4"), -1);
+            Due.is("10: as deep as can be", Due.law(x, deep), 1);
+            Due.is("10: left open", Due.law(x, "take when ("), -1);
+            Due.is("10: a bracket too many", Due.law(x, "take when 1=1);"), -1);
+            Due.is("10: a long text", Due.law(x, longer), 1);
+        }
+        Due.is("10: a short one", Due.law(x, "leave when weight=2;"), 1);
+        x.load(2, 0, 0);
+        x.load(3, 0, 0);
+        x.crosser(0, 0, 0, 9, 0, 0);
+        Due.is("10: it is the law", x.hours(1), 1);
+        Due.is("10: it is the law", x.book(0, 0), 1);
+    }
+
+    private static void sixteenLines() {
+        TakeOver x = new TakeOver();
+        StringBuilder text = new StringBuilder();
+        for (int i = 1; i <= 14; i++) {
+            text.append("leave when weight=").append(2 * i).append(";");
+        }
+        text.append("take when weight=29;leave when weight>28;");
+        Due.is("10: sixteen lines", Due.law(x, text.toString()), 16);
+        for (int i = 1; i <= 30; i++) {
+            x.load(i, 0, 0);
+        }
+        int at = 0;
+        for (int i = 0; i < 8; i++) {
+            x.crosser(0, 0, 0, 99, 0, 0);
+        }
+        Due.is("10: all odd ones", x.hours(1), 15);
+        for (int weight = 1; weight <= 30; weight++) {
+            Due.is("10: weight " + weight, x.of(weight - 1, 1), weight % 2);
+            at += x.of(weight - 1, 1);
+        }
+        Due.is("10: fifteen are over", at, 15);
     }
 
     /** Whether a load of weight 7 is left by 'leave when B;': heap 2, own 4, hour 5, since 3, trips 0, room 20. */

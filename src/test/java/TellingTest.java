@@ -78,6 +78,13 @@ public final class TellingTest {
         Due.is("2: not crossed", x.who(0, 8), -1);
         Due.is("2: plain", x.who(0, 6), 0);
         Due.is("2: not maybe", x.who(0, 11), 0);
+        Due.is("2: bore nothing", x.who(0, 9), 0);
+        Due.is("2: another crosser", x.crosser(0, 1, 0, 9, 0, 0), 1);
+        Due.is("2: plain", x.who(1, 6), 0);
+        Due.is("2: v", x.who(1, 7), 0);
+        Due.is("2: paid nothing", x.who(1, 10), 0);
+        Due.is("2: another load", x.load(4, 0, 9), 1);
+        Due.is("2: not gone", x.of(1, 5), 0);
         Due.yes("2: the image stays", x.image(false));
         Due.is("2: as it was", x.look(0), 2);
         Due.is("2: as it was", x.look(1), 0);
@@ -170,6 +177,14 @@ public final class TellingTest {
         Due.is("4: gone", x.of(1, 5), 1);
         Due.yes("4: no more", x.fetch(1, -1, 0));
         Due.is("4: it stays gone", x.of(1, 5), 1);
+        for (int i = 2; i < 6; i++) {
+            x.load(3, i % 2, 5);
+            Due.yes("4: several in an hour", x.fetch(i, i % 2, 7));
+        }
+        x.hours(3);
+        for (int i = 2; i < 6; i++) {
+            Due.is("4: all gone", x.of(i, 5), 1);
+        }
     }
 
     private static void crosser() {

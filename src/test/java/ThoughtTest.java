@@ -17,7 +17,9 @@ public final class ThoughtTest {
         tooManyMaybe();
         chance();
         image();
+        imageOfAll();
         nothingStays();
+        hoursBehindThoughts();
         Due.end();
     }
 
@@ -168,6 +170,9 @@ public final class ThoughtTest {
         Due.is("21: never", x.send(9, 1, 0, 0, 167, 1), -1);
         Due.is("21: too heavy", x.send(11, 0, 1, 0, 167, 1), -1);
         Due.is("21: until", x.send(9, 0, 1, 0, 0, 0), 0);
+        x.offer(9, 0, 0, 99, 1);
+        x.crosser(10, 0, 0, 99, 0, 0);
+        Due.is("21: as heavy as can be", x.send(99, 0, 1, 0, 10, 0), 10);
         int[][] bad = {{0, 0, 1, 0, 9, 0}, {100, 0, 1, 0, 9, 0}, {9, -1, 1, 0, 9, 0}, {9, 3, 1, 0, 9, 0},
             {9, 0, 3, 0, 9, 0}, {9, 0, -1, 0, 9, 0}, {9, 0, 0, 0, 9, 0}, {9, 0, 1, -1, 9, 0},
             {9, 0, 1, 0, 168, 0}, {9, 0, 1, 5, 4, 0}, {9, 0, 1, 0, 9, 2}, {9, 0, 1, 0, 9, -1}};
@@ -330,6 +335,11 @@ public final class ThoughtTest {
         Due.is("26: in all", x.night(1), 0);
         Due.is("26: the least", x.night(2), 0);
         x.set(2, 0, 1);
+        x.image(true);
+        x.list(0, 0, 0);
+        Due.is("26: none goes with what was at hour 0", x.night(0), 0);
+        x.image(false);
+        x.list(0, 0, 1);
         x.list(3, 1, 1);
         Due.is("26: sets", x.night(0), 9);
         Due.is("26: in all", x.night(1), 0);
@@ -452,6 +462,88 @@ public final class ThoughtTest {
         Due.law(x, "");
         Due.yes("28: gone back", x.image(false));
         Due.is("28: the newer one", x.look(7), 2);
+    }
+
+    /** Every row is overwritten ahead of going back. */
+    private static void imageOfAll() {
+        TakeOver x = new TakeOver();
+        x.bridges(2);
+        for (int i = 0; i < 3; i++) {
+            x.load(5 + i, i, 0);
+            x.crosser(i, i % 2, i % 2, 20 + i, i, 3 + i);
+            x.offer(10 + i, i % 2, 1 - i % 2, 30 + i, 7 + i);
+        }
+        x.crosser(30, 0, 0, 20, 0, 0);
+        x.kind(3, 1, 5);
+        x.kind(2, 2, 3);
+        x.fetch(2, 0, 20);
+        x.list(0, 1, 3);
+        x.list(3, 2, 4);
+        Due.law(x, "leave when weight=7; take;");
+        x.set(2, 1, 1);
+        x.hours(2);
+        long before = sight(x);
+        x.image(true);
+        x.bridges(3);
+        for (int i = 0; i < 6; i++) {
+            x.load(50 + i, 3 - i % 3, 1);
+            x.crosser(9 + i, 2, 0, 90 - i, 1, 8);
+            x.kind(i, 1, 1 + i);
+            x.set(2, i, 1);
+            x.offer(3, 2, 1, 99, 99);
+            x.list(7, 3, 1);
+            x.fetch(i, 2, 4);
+        }
+        Due.law(x, "take when room > 9; take when room<5; leave;");
+        x.hours(60);
+        x.right(1);
+        Due.yes("28: another sight", sight(x) != before);
+        x.image(false);
+        Due.is("28: all is as it was", sight(x), before);
+    }
+
+    /** A sum over all that can be seen and be thought. */
+    private static long sight(TakeOver x) {
+        long sum = 7;
+        for (int i = 0; i < 12; i++) {
+            for (int what = 0; what < 12; what++) {
+                sum = sum * 31 + x.of(i, what);
+                sum = sum * 31 + x.who(i, what);
+                sum = sum * 31 + x.waits(i, what);
+                sum = sum * 31 + x.book(i, what);
+                sum = sum * 31 + x.look(what);
+                sum = sum * 31 + x.over(i, what);
+            }
+            sum = sum * 31 + x.back(i);
+            sum = sum * 31 + x.fewest(1 << i, 2, 60, 0);
+            sum = sum * 31 + x.fewest(1 << i, 0, 60, 1);
+            sum = sum * 31 + x.night(i);
+            sum = sum * 31 + x.gathers(i, 25, 1);
+            sum = sum * 31 + x.right(i);
+        }
+        return sum;
+    }
+
+    /** What a thought watched or left out is nothing to the hours that go by. */
+    private static void hoursBehindThoughts() {
+        TakeOver x = new TakeOver();
+        x.load(5, 0, 0);
+        x.crosser(3, 0, 0, 9, 0, 0);
+        x.crosser(6, 0, 1, 9, 0, 0);
+        x.set(2, 0, 1);
+        x.list(4, 0, 1);
+        x.offer(1, 0, 0, 9, 9);
+        Due.is("17: over", x.over(0, 1), 3);
+        Due.is("12: hours", x.hours(5), 1);
+        Due.is("29: now", x.look(1), 5);
+        Due.is("26: night", x.night(2), 0);
+        Due.is("12: hours", x.hours(5), 1);
+        Due.is("29: now", x.look(1), 10);
+        x.bridges(1);
+        x.load(5, 0, 0);
+        x.offer(2, 0, 0, 9, 9);
+        Due.is("23: offers of before are no more", x.fewest(1, 1, 1, 0), -1);
+        Due.is("23: the new one", x.fewest(1, 1, 2, 0), 1);
     }
 
     private static void nothingStays() {
