@@ -165,6 +165,7 @@ public final class LawTest {
             Due.is("10: a bracket too many", Due.law(x, "take when 1=1);"), -1);
             Due.is("10: a long text", Due.law(x, longer), 1);
         }
+        Due.is("10: left open", Due.law(x, "take when not"), -1);
         Due.is("10: a short one", Due.law(x, "leave when weight=2;"), 1);
         x.load(2, 0, 0);
         x.load(3, 0, 0);

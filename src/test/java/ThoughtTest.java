@@ -471,35 +471,59 @@ public final class ThoughtTest {
         for (int i = 0; i < 3; i++) {
             x.load(5 + i, i, 0);
             x.crosser(i, i % 2, i % 2, 20 + i, i, 3 + i);
-            x.offer(10 + i, i % 2, 1 - i % 2, 30 + i, 7 + i);
+            x.offer(10 + i, 1 - i % 2, i % 2, 30 + i, 7 + i);
         }
         x.crosser(30, 0, 0, 20, 0, 0);
         x.kind(3, 1, 5);
         x.kind(2, 2, 3);
-        x.fetch(2, 0, 20);
+        x.fetch(2, 2, 20);
         x.list(0, 1, 3);
         x.list(3, 2, 4);
         Due.law(x, "leave when weight=7; take;");
         x.set(2, 1, 1);
         x.hours(2);
+        Due.is("28: a line of the book", x.look(4), 1);
         long before = sight(x);
         x.image(true);
         x.bridges(3);
+        Due.law(x, "take when room > 9; take when room<5; leave;");
         for (int i = 0; i < 6; i++) {
             x.load(50 + i, 3 - i % 3, 1);
-            x.crosser(9 + i, 2, 0, 90 - i, 1, 8);
-            x.kind(i, 1, 1 + i);
+            x.crosser(40 - i, 2, 0, 90 - i, 1, 8);
+            x.kind(i, 1, 7 - i);
             x.set(2, i, 1);
-            x.offer(3, 2, 1, 99, 99);
+            x.offer(160, 2, 1, 9, 99);
             x.list(7, 3, 1);
-            x.fetch(i, 2, 4);
+            x.fetch(i, 2, 150);
         }
-        Due.law(x, "take when room > 9; take when room<5; leave;");
         x.hours(60);
-        x.right(1);
+        Due.yes("28: another book", x.book(0, 0) != 0 && x.book(0, 1) != 0 && x.book(0, 2) != 0);
         Due.yes("28: another sight", sight(x) != before);
         x.image(false);
         Due.is("28: all is as it was", sight(x), before);
+        imageOfOffersAndLists();
+    }
+
+    private static void imageOfOffersAndLists() {
+        TakeOver x = new TakeOver();
+        x.load(9, 0, 0);
+        x.offer(2, 0, 0, 9, 7);
+        x.crosser(4, 0, 0, 9, 0, 0);
+        x.set(2, 0, 1);
+        x.list(4, 1, 1);
+        x.fetch(0, 1, 6);
+        x.image(true);
+        x.bridges(2);
+        x.load(8, 0, 0);
+        x.offer(99, 1, 1, 1, 1);
+        x.list(3, 2, 0);
+        x.fetch(0, 0, 50);
+        x.image(false);
+        Due.is("28: an offer's hour, bridge, way, bears", x.fewest(1, 1, 3, 0), 1);
+        Due.is("28: an offer's price", x.fewest(1, 1, 3, 1), 7);
+        Due.is("28: a list's hour, end, set", x.night(2), 1);
+        Due.is("28: when it is fetched", x.gathers(1, 5, 0), 1);
+        Due.is("28: when it is fetched", x.gathers(1, 6, 0), 0);
     }
 
     /** A sum over all that can be seen and be thought. */
