@@ -27,6 +27,7 @@ public final class ChoiceEdgesTest {
         nightBounds();
         nightWithoutLists();
         nightSets();
+        nightBehind();
         nightFromHourNought();
         chanceBounds();
         chanceOfAll();
@@ -366,6 +367,32 @@ public final class ChoiceEdgesTest {
         Due.is("26: the least, without any", x.night(2), NONE);
     }
 
+    /** Crosser 1 goes behind 0, and 2 behind 1: who stays away keeps those behind him from crossing. */
+    private static void nightBehind() {
+        for (int maybe = 0; maybe < 8; maybe++) {
+            TakeOver x = new TakeOver();
+            for (int i = 0; i < 3; i++) {
+                x.load(1, 0, 0);
+                x.crosser(4, 0, 0, 1, 0, 0);
+                x.set(2, i, maybe >> i & 1);
+            }
+            x.kind(1, 2, 0);
+            x.kind(2, 2, 1);
+            x.image(true);
+            for (int borne = 0; borne <= 3; borne++) {
+                x.image(false);
+                x.list(4, 1, (1 << borne) - 1);
+                int sets = 0;
+                for (int set = 0; set < 8; set++) {
+                    int cross = set | ~maybe;
+                    int due = (cross & 1) == 0 ? 0 : (cross & 2) == 0 ? 1 : (cross & 4) == 0 ? 2 : 3;
+                    sets += (set & ~maybe) == 0 && due == borne ? 1 : 0;
+                }
+                Due.is("26: " + borne + " borne, maybe " + maybe, x.night(0), sets);
+            }
+        }
+    }
+
     /** Whatever went by: from hour 0 on as all is told now. */
     private static void nightFromHourNought() {
         for (int now : new int[] {0, 1, 4, 168}) {
@@ -460,10 +487,10 @@ public final class ChoiceEdgesTest {
             x.crosser(30 + i, 0, i % 2, 50, 0, 1);
             x.kind(i, 1, 3);
             x.set(2, i, 1);
-            x.offer(60, 0, 0, 9, 1);
+            x.offer(60, 0, 1 - i % 2, 9, 1);
             x.list(10, 0, 1);
         }
-        x.set(0, 0, 5);
+        x.set(0, 0, 999);
         x.set(1, 0, 0);
         x.hours(70);
     }

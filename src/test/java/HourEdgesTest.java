@@ -35,6 +35,7 @@ public final class HourEdgesTest {
         tollOfMost();
         tollsInAll();
         setDownInOrder();
+        fiveHundredAndTwelveCalls();
         Due.end();
     }
 
@@ -602,5 +603,17 @@ public final class HourEdgesTest {
             Due.is("13: since", x.of(load, 2), borne ? 3 : 2);
         }
         Due.is("T2: what he left", x.waits(0, 0), 2);
+    }
+
+    /** An object is used for so many calls: the last of them is answered as the first. */
+    private static void fiveHundredAndTwelveCalls() {
+        TakeOver x = new TakeOver();
+        x.load(1, 0, 0);
+        x.crosser(3, 0, 0, 1, 0, 0);
+        for (int call = 3; call <= 510; call++) {
+            Due.is("call " + call, x.over(0, 1), 3);
+        }
+        Due.is("call 511", x.hours(4), 1);
+        Due.is("call 512", x.over(0, 1), 4);
     }
 }

@@ -15,6 +15,7 @@ public final class TellEdgesTest {
         aNewObject();
         bridges();
         bridgesToldAnew();
+        bridgesToldAnewThenFilled();
         bridgesJoinEnds();
         load();
         thirtyLoads();
@@ -118,6 +119,39 @@ public final class TellEdgesTest {
         }
         for (int i = 0; i < 8; i++) {
             Due.is("2: told anew, offers", x.offer(0, 0, 0, 9, 0), i);
+        }
+    }
+
+    /** What is told behind it is as in an object of its own: nothing of the rows of before is left in it. */
+    private static void bridgesToldAnewThenFilled() {
+        Twin filled = new Twin("filled", () -> {
+            TakeOver x = new TakeOver();
+            Twin.keptByBridges(x);
+            Twin.faultAndTape(x);
+            fill(x);
+            return x;
+        });
+        Twin.Recipe[] before = {Twin::makeMiddle, Twin::makeLate};
+        for (Twin.Recipe recipe : before) {
+            filled.isLike("2: told anew, then filled", () -> {
+                TakeOver x = recipe.make();
+                x.bridges(2);
+                fill(x);
+                return x;
+            });
+        }
+    }
+
+    private static void fill(TakeOver x) {
+        for (int i = 0; i < 30; i++) {
+            x.load(1 + i, i % 3, i / 3);
+        }
+        for (int i = 0; i < 20; i++) {
+            x.crosser(5 + i, i % 2, i / 2 % 2, 60, 0, 1);
+        }
+        for (int i = 0; i < 8; i++) {
+            x.offer(20 + i, i % 2, 0, 50, i);
+            x.list(i, 0, 0);
         }
     }
 

@@ -200,7 +200,9 @@ final class Twin {
         }
         int all = (1 << x.look(2)) - 1;
         for (int end = 0; end <= bridges; end++) {
-            row.put(x.fewest(all & 7, end, 60, 0));
+            for (int load = 0; load < 6; load++) {
+                row.put(x.fewest(all & 1 << load, end, 8 + 8 * load, 0));
+            }
             row.put(x.fewest(all & 33, end, 60, 0));
             row.put(x.fewest(all & 33, end, 60, 1));
         }
