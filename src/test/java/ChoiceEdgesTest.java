@@ -444,8 +444,8 @@ public final class ChoiceEdgesTest {
 
     /** By fractions, all p, q and n: over behind an hour if it was or comes over, and is not taken back. */
     private static void chanceOfAll() {
-        TakeOver x = new TakeOver();
         for (int p = 0; p <= 10; p++) {
+            TakeOver x = new TakeOver();
             for (int q = 0; q <= 10; q++) {
                 BigInteger[] over = new BigInteger[9];
                 over[0] = BigInteger.ZERO;
