@@ -6,6 +6,11 @@ public final class ModelTest {
     private static final String[] SPOILS = {"take", "when", "or", "and", "not ", "(", ")", ";", "<", "/0", "/", "*",
         "12345", "7", "xy", "$", "room", " ", "\n", "not not not ", "((("};
 
+    /** What the document promises of one object. */
+    private static final int MOST_CALLS = 512;
+    /** Behind so many no more is told, so that the rest is left for looking at all. */
+    private static final int MOST_PLAYED = 400;
+
     private final Random draw;
     private final TakeOver x = new TakeOver();
     private final Model m = new Model();
@@ -15,6 +20,7 @@ public final class ModelTest {
     /** In some runs few cross by themselves, so that who is hired or maybe there tells. */
     private final boolean isShy;
     private final String run;
+    private int calls;
 
     private ModelTest(int seed) {
         draw = new Random(seed * 7919L + 13);
@@ -26,7 +32,7 @@ public final class ModelTest {
     }
 
     public static void main(String[] args) {
-        int runs = args.length > 0 ? Integer.parseInt(args[0]) : 150;
+        int runs = args.length > 0 ? Integer.parseInt(args[0]) : 250;
         int first = args.length > 1 ? Integer.parseInt(args[1]) : 0;
         for (int seed = first; seed < first + runs; seed++) {
             new ModelTest(seed).play();
@@ -38,8 +44,8 @@ public final class ModelTest {
 
     private static void allChances() {
         Model m = new Model();
-        TakeOver x = new TakeOver();
         for (int p = -1; p <= 11; p++) {
+            TakeOver x = new TakeOver();
             for (int q = -1; q <= 11; q++) {
                 for (int n = 0; n <= 4; n++) {
                     Due.is("chance " + p + " " + q + " " + n, x.chance(p, q, n, 0), m.chance(p, q, n, 0));
@@ -47,7 +53,14 @@ public final class ModelTest {
                 }
             }
         }
-        Due.is("chance 8 hours", x.chance(7, 3, 8, 0), m.chance(7, 3, 8, 0));
+        Due.is("chance 8 hours", new TakeOver().chance(7, 3, 8, 0), m.chance(7, 3, 8, 0));
+    }
+
+    /** Compares the answer to one call with the model's; past what is promised none may be asked. */
+    private void is(String call, long got, long want) {
+        calls++;
+        Due.yes(run + "is past its " + MOST_CALLS + " calls", calls <= MOST_CALLS);
+        Due.is(run + call, got, want);
     }
 
     private int upTo(int most) {
@@ -59,16 +72,16 @@ public final class ModelTest {
     }
 
     private int hour() {
-        int hour = x.look(1) + draw.nextInt(hourSpan);
+        int hour = m.world.now + draw.nextInt(hourSpan);
         return seldom(25) ? upTo(200) - 10 : hour;
     }
 
     private int end() {
-        return seldom(25) ? upTo(6) - 2 : upTo(x.look(0));
+        return seldom(25) ? upTo(6) - 2 : upTo(m.world.bridges);
     }
 
     private int bridge() {
-        return seldom(25) ? upTo(6) - 2 : draw.nextInt(x.look(0));
+        return seldom(25) ? upTo(6) - 2 : draw.nextInt(m.world.bridges);
     }
 
     private int way() {
@@ -84,11 +97,11 @@ public final class ModelTest {
     }
 
     private int aLoad() {
-        return seldom(25) ? upTo(34) - 2 : draw.nextInt(Math.max(1, x.look(2)));
+        return seldom(25) ? upTo(34) - 2 : draw.nextInt(Math.max(1, m.world.loads.size()));
     }
 
     private int aCrosser() {
-        return seldom(25) ? upTo(24) - 2 : draw.nextInt(Math.max(1, x.look(3)));
+        return seldom(25) ? upTo(24) - 2 : draw.nextInt(Math.max(1, m.world.walkers.size()));
     }
 
     private int what(int most) {
@@ -96,10 +109,10 @@ public final class ModelTest {
     }
 
     private int loadSet() {
-        if (!seldom(3) && x.look(2) > 0) {
-            return 1 << draw.nextInt(x.look(2)) | (seldom(2) ? 1 << draw.nextInt(x.look(2)) : 0);
+        if (!seldom(3) && m.world.loads.size() > 0) {
+            return 1 << draw.nextInt(m.world.loads.size()) | (seldom(2) ? 1 << draw.nextInt(m.world.loads.size()) : 0);
         }
-        int all = (1 << x.look(2)) - 1;
+        int all = (1 << m.world.loads.size()) - 1;
         int drawn = draw.nextInt() & (seldom(2) ? draw.nextInt() & draw.nextInt() : draw.nextInt());
         return seldom(25) ? drawn : drawn & all;
     }
@@ -107,7 +120,7 @@ public final class ModelTest {
     private void play() {
         if (!seldom(4)) {
             int n = 1 + draw.nextInt(3);
-            Due.is(run + "bridges", x.bridges(n) ? 1 : 0, m.bridges(n) ? 1 : 0);
+            is("bridges", x.bridges(n) ? 1 : 0, m.bridges(n) ? 1 : 0);
         }
         if (!seldom(3)) {
             law();
@@ -116,7 +129,7 @@ public final class ModelTest {
         for (int i = 0; i < tells; i++) {
             tell();
         }
-        for (int i = 0; i < 150; i++) {
+        while (calls < MOST_PLAYED) {
             int kind = draw.nextInt(20);
             if (kind < 4) {
                 tell();
@@ -130,33 +143,35 @@ public final class ModelTest {
                 see();
             }
         }
-        seeAll();
+        while (calls < MOST_CALLS) {
+            lookAnywhere();
+        }
     }
 
     /** A small world with many who may help, asked again and again as hours go by. */
     private void ponder() {
         int n = 1 + draw.nextInt(2);
-        Due.is(run + "bridges", x.bridges(n) ? 1 : 0, m.bridges(n) ? 1 : 0);
+        is("bridges", x.bridges(n) ? 1 : 0, m.bridges(n) ? 1 : 0);
         if (seldom(4)) {
             law();
         }
         smallWorld();
         for (int i = 0; i < 12; i++) {
-            int now = x.look(1);
+            int now = m.world.now;
             int until = Math.min(167, now + draw.nextInt(30));
             int end = upTo(n);
             int to = upTo(n);
             int w = upTo(1);
             int set = loadSet();
-            Due.is(run + "fewest", x.fewest(set, end, until, w), m.fewest(set, end, until, w));
+            is("fewest", x.fewest(set, end, until, w), m.fewest(set, end, until, w));
             int weight = weight();
-            Due.is(run + "send", x.send(weight, end, to, now, until, w), m.send(weight, end, to, now, until, w));
+            is("send", x.send(weight, end, to, now, until, w), m.send(weight, end, to, now, until, w));
             int a = aLoad();
-            Due.is(run + "over", x.over(a, to), m.over(a, to));
+            is("over", x.over(a, to), m.over(a, to));
             night();
             if (seldom(6)) {
                 int k = 1 + upTo(4);
-                Due.is(run + "right(" + k + ")", x.right(k), m.right(k));
+                is("right(" + k + ")", x.right(k), m.right(k));
             }
             if (seldom(3)) {
                 pass();
@@ -165,12 +180,12 @@ public final class ModelTest {
     }
 
     private void smallWorld() {
-        int bridges = x.look(0);
+        int bridges = m.world.bridges;
         for (int i = 0; i < 6; i++) {
             int a = weight();
             int b = upTo(bridges);
             int c = upTo(6);
-            Due.is(run + "load", x.load(a, b, c), m.load(a, b, c));
+            is("load", x.load(a, b, c), m.load(a, b, c));
         }
         int crossers = 3 + upTo(7);
         for (int i = 0; i < crossers; i++) {
@@ -179,9 +194,9 @@ public final class ModelTest {
             int c = upTo(1);
             int d = bears();
             int f = upTo(9);
-            Due.is(run + "crosser", x.crosser(a, b, c, d, 0, f), m.crosser(a, b, c, d, 0, f));
+            is("crosser", x.crosser(a, b, c, d, 0, f), m.crosser(a, b, c, d, 0, f));
             int maybe = upTo(1);
-            Due.is(run + "set", x.set(2, i, maybe) ? 1 : 0, m.set(2, i, maybe) ? 1 : 0);
+            is("set", x.set(2, i, maybe) ? 1 : 0, m.set(2, i, maybe) ? 1 : 0);
             kind();
         }
         for (int i = 0; i < 8; i++) {
@@ -190,7 +205,7 @@ public final class ModelTest {
             int c = upTo(1);
             int d = bears();
             int e = upTo(5);
-            Due.is(run + "offer", x.offer(a, b, c, d, e), m.offer(a, b, c, d, e));
+            is("offer", x.offer(a, b, c, d, e), m.offer(a, b, c, d, e));
         }
     }
 
@@ -203,7 +218,7 @@ public final class ModelTest {
             int a = weight();
             int b = end();
             int c = hour();
-            Due.is(run + "load", x.load(a, b, c), m.load(a, b, c));
+            is("load", x.load(a, b, c), m.load(a, b, c));
         } else if (kind < 7) {
             int a = hour();
             int b = bridge();
@@ -211,12 +226,12 @@ public final class ModelTest {
             int d = bears();
             int e = seldom(2) ? 0 : upTo(Math.max(0, d) + (seldom(20) ? 2 : 0)) / (seldom(2) ? 1 : 4);
             int f = seldom(40) ? upTo(14) - 2 : upTo(9);
-            Due.is(run + "crosser", x.crosser(a, b, c, d, e, f), m.crosser(a, b, c, d, e, f));
+            is("crosser", x.crosser(a, b, c, d, e, f), m.crosser(a, b, c, d, e, f));
         } else if (kind == 7) {
             int a = aLoad();
             int b = seldom(6) ? -1 : end();
             int c = hour();
-            Due.is(run + "fetch", x.fetch(a, b, c) ? 1 : 0, m.fetch(a, b, c) ? 1 : 0);
+            is("fetch", x.fetch(a, b, c) ? 1 : 0, m.fetch(a, b, c) ? 1 : 0);
         } else if (kind < 10) {
             kind();
         } else if (kind == 10) {
@@ -225,12 +240,12 @@ public final class ModelTest {
             int c = way();
             int d = bears();
             int e = seldom(3) ? upTo(1010) - 5 : upTo(4);
-            Due.is(run + "offer", x.offer(a, b, c, d, e), m.offer(a, b, c, d, e));
+            is("offer", x.offer(a, b, c, d, e), m.offer(a, b, c, d, e));
         } else {
             int a = seldom(2) ? 2 : what(2);
             int b = aCrosser();
             int c = a == 0 ? (seldom(4) ? -1 : upTo(seldom(10) ? 1005 : 150) - 2) : seldom(25) ? upTo(5) - 2 : upTo(1);
-            Due.is(run + "set", x.set(a, b, c) ? 1 : 0, m.set(a, b, c) ? 1 : 0);
+            is("set", x.set(a, b, c) ? 1 : 0, m.set(a, b, c) ? 1 : 0);
         }
     }
 
@@ -238,13 +253,13 @@ public final class ModelTest {
         int a = aCrosser();
         int b = what(2);
         int c = b == 1 ? upTo(seldom(10) ? 30 : 8) - (seldom(20) ? 3 : 0) : aCrosser();
-        Due.is(run + "kind", x.kind(a, b, c) ? 1 : 0, m.kind(a, b, c) ? 1 : 0);
+        is("kind", x.kind(a, b, c) ? 1 : 0, m.kind(a, b, c) ? 1 : 0);
     }
 
     private void pass() {
         int n = seldom(30) ? upTo(200) - 20 : upTo(4);
-        Due.is(run + "hours", x.hours(n), m.hours(n));
-        Due.is(run + "look(10)", x.look(10), m.look(10));
+        is("hours", x.hours(n), m.hours(n));
+        is("look(10)", x.look(10), m.look(10));
     }
 
     private void think() {
@@ -255,33 +270,33 @@ public final class ModelTest {
             case 0, 1 -> {
                 int a = aLoad();
                 int b = end();
-                Due.is(run + "over", x.over(a, b), m.over(a, b));
+                is("over", x.over(a, b), m.over(a, b));
             }
             case 2 -> {
                 int a = aLoad();
-                Due.is(run + "back", x.back(a), m.back(a));
+                is("back", x.back(a), m.back(a));
             }
             case 3, 4 -> {
                 int a = end();
-                Due.is(run + "gathers", x.gathers(a, from, w), m.gathers(a, from, w));
+                is("gathers", x.gathers(a, from, w), m.gathers(a, from, w));
             }
             case 5, 6 -> {
                 int a = bridge();
                 int b = way();
                 int c = bears();
-                Due.is(run + "best", x.best(a, b, c, from, until, w), m.best(a, b, c, from, until, w));
+                is("best", x.best(a, b, c, from, until, w), m.best(a, b, c, from, until, w));
             }
             case 7, 8 -> {
                 int a = weight();
                 int b = end();
                 int c = end();
-                Due.is(run + "send", x.send(a, b, c, from, until, w), m.send(a, b, c, from, until, w));
+                is("send", x.send(a, b, c, from, until, w), m.send(a, b, c, from, until, w));
             }
             case 9, 10 -> {
                 int a = loadSet();
                 int b = end();
                 int c = seldom(2) ? from : until;
-                Due.is(run + "fewest", x.fewest(a, b, c, w), m.fewest(a, b, c, w));
+                is("fewest", x.fewest(a, b, c, w), m.fewest(a, b, c, w));
             }
             default -> night();
         }
@@ -296,10 +311,10 @@ public final class ModelTest {
             set = m.world.copy().playedUntil(hour).at(end).stream().mapToInt(l -> 1 << l.number).sum();
         }
         if (!seldom(3)) {
-            Due.is(run + "list", x.list(hour, end, set) ? 1 : 0, m.list(hour, end, set) ? 1 : 0);
+            is("list", x.list(hour, end, set) ? 1 : 0, m.list(hour, end, set) ? 1 : 0);
         }
         for (int what = 0; what < 3; what++) {
-            Due.is(run + "night(" + what + ")", x.night(what), m.night(what));
+            is("night(" + what + ")", x.night(what), m.night(what));
         }
     }
 
@@ -307,22 +322,22 @@ public final class ModelTest {
         switch (draw.nextInt(8)) {
             case 0 -> {
                 int k = seldom(9) ? upTo(25) - 2 : 1 + upTo(5);
-                Due.is(run + "right(" + k + ")", x.right(k), m.right(k));
+                is("right(" + k + ")", x.right(k), m.right(k));
             }
             case 1, 2 -> law();
             case 3, 4, 5 -> {
                 boolean taken = draw.nextBoolean();
-                Due.is(run + "image", x.image(taken) ? 1 : 0, m.image(taken) ? 1 : 0);
+                is("image", x.image(taken) ? 1 : 0, m.image(taken) ? 1 : 0);
             }
             case 6 -> {
                 int n = seldom(3) ? 1 + upTo(2) : upTo(6) - 7;
-                Due.is(run + "bridges", x.bridges(n) ? 1 : 0, m.bridges(n) ? 1 : 0);
+                is("bridges", x.bridges(n) ? 1 : 0, m.bridges(n) ? 1 : 0);
             }
             default -> {
                 int[] f = {draw.nextInt(), draw.nextInt(), draw.nextInt(), draw.nextInt(), draw.nextInt()};
-                Due.is(run + "feed", x.feed(f[0], f[1], f[2], f[3], f[4]), m.feed(f));
+                is("feed", x.feed(f[0], f[1], f[2], f[3], f[4]), m.feed(f));
                 int n = upTo(40) - 3;
-                Due.is(run + "end", x.end(n) ? 1 : 0, m.end(n) ? 1 : 0);
+                is("end", x.end(n) ? 1 : 0, m.end(n) ? 1 : 0);
             }
         }
     }
@@ -333,29 +348,30 @@ public final class ModelTest {
         int e = end();
         int i = upTo(9) - 1;
         int w = what(5);
-        Due.is(run + "of(" + a + ", " + w + ")", x.of(a, w), m.of(a, w));
+        is("of(" + a + ", " + w + ")", x.of(a, w), m.of(a, w));
         w = what(11);
-        Due.is(run + "who(" + c + ", " + w + ")", x.who(c, w), m.who(c, w));
-        Due.is(run + "waits(" + e + ", " + i + ")", x.waits(e, i), m.waits(e, i));
+        is("who(" + c + ", " + w + ")", x.who(c, w), m.who(c, w));
+        is("waits(" + e + ", " + i + ")", x.waits(e, i), m.waits(e, i));
         i = upTo(30) - 1;
         w = what(2);
-        Due.is(run + "book(" + i + ", " + w + ")", x.book(i, w), m.book(i, w));
+        is("book(" + i + ", " + w + ")", x.book(i, w), m.book(i, w));
         w = what(10);
-        Due.is(run + "look(" + w + ")", x.look(w), m.look(w));
-        Due.is(run + "fault(" + w + ")", x.fault(w), m.fault(w));
+        is("look(" + w + ")", x.look(w), m.look(w));
+        is("fault(" + w + ")", x.fault(w), m.fault(w));
     }
 
-    private void seeAll() {
-        for (int w = -1; w < 13; w++) {
-            for (int i = -1; i < 31; i++) {
-                Due.is(run + "of", x.of(i, w), m.of(i, w));
-                Due.is(run + "who", x.who(i, w), m.who(i, w));
-                Due.is(run + "waits", x.waits(w, i), m.waits(w, i));
+    private void lookAnywhere() {
+        int w = upTo(13) - 1;
+        int i = upTo(31) - 1;
+        switch (draw.nextInt(5)) {
+            case 0 -> is("of(" + i + ", " + w + ")", x.of(i, w), m.of(i, w));
+            case 1 -> is("who(" + i + ", " + w + ")", x.who(i, w), m.who(i, w));
+            case 2 -> is("waits(" + w + ", " + i + ")", x.waits(w, i), m.waits(w, i));
+            case 3 -> {
+                int line = upTo(m.world.book.size() + 1) - 1;
+                is("book(" + line + ", " + w + ")", x.book(line, w), m.book(line, w));
             }
-            for (int i = -1; i < 303; i++) {
-                Due.is(run + "book", x.book(i, w), m.book(i, w));
-            }
-            Due.is(run + "look", x.look(w), m.look(w));
+            default -> is("look(" + w + ")", x.look(w), m.look(w));
         }
     }
 
@@ -374,19 +390,19 @@ public final class ModelTest {
         }
         String text = b.length() > 400 ? b.substring(0, 400) : b.toString();
         while (m.tape.length() > 0) {
-            Due.is(run + "end(0)", x.end(0) ? 1 : 0, m.end(0) ? 1 : 0);
+            is("end(0)", x.end(0) ? 1 : 0, m.end(0) ? 1 : 0);
         }
         for (int i = 0; i < text.length(); i += 20) {
             int[] f = new int[5];
             for (int k = 0; k < 20; k++) {
                 f[k / 4] = f[k / 4] << 8 | (i + k < text.length() ? text.charAt(i + k) : 32);
             }
-            Due.is(run + "feed", x.feed(f[0], f[1], f[2], f[3], f[4]), m.feed(f));
+            is("feed", x.feed(f[0], f[1], f[2], f[3], f[4]), m.feed(f));
         }
-        Due.is(run + "end", x.end(text.length()) ? 1 : 0, m.end(text.length()) ? 1 : 0);
-        Due.is(run + "text of " + text, x.text(), m.text());
-        Due.is(run + "fault(0) of " + text, x.fault(0), m.fault(0));
-        Due.is(run + "fault(1) of " + text, x.fault(1), m.fault(1));
+        is("end", x.end(text.length()) ? 1 : 0, m.end(text.length()) ? 1 : 0);
+        is("text of " + text, x.text(), m.text());
+        is("fault(0) of " + text, x.fault(0), m.fault(0));
+        is("fault(1) of " + text, x.fault(1), m.fault(1));
     }
 
     private void spoil(StringBuilder b) {

@@ -6,7 +6,8 @@ import java.util.IdentityHashMap;
 
 /** What an object takes, and that its calls make nothing: all calls of a run live in one room. */
 public final class RoomTest {
-    private static final int CALLS = 60;
+    /** So few that the object stays within the 512 calls that the document promises. */
+    private static final int ROUNDS = 15;
 
     public static void main(String[] args) throws Exception {
         size();
@@ -48,11 +49,11 @@ public final class RoomTest {
         TakeOver x = full();
         callAll(x);
         long before = threads.getCurrentThreadAllocatedBytes();
-        for (int i = 0; i < CALLS; i++) {
+        for (int i = 0; i < ROUNDS; i++) {
             callAll(x);
         }
         long made = threads.getCurrentThreadAllocatedBytes() - before;
-        Due.yes("bytes made by " + CALLS + " rounds of calls: " + made, made < 20000);
+        Due.yes("bytes made by " + ROUNDS + " rounds of calls: " + made, made < 20000);
     }
 
     /** As much as can be told, with a long law. */

@@ -1,5 +1,7 @@
 /** Promises 17 to 21, 23, 24, 26 to 28: what is found in thought, and the image. */
 public final class ThoughtTest {
+    private static final int PARTS = 12;
+
     public static void main(String[] args) {
         over();
         back();
@@ -464,8 +466,25 @@ public final class ThoughtTest {
         Due.is("28: the newer one", x.look(7), 2);
     }
 
-    /** Every row is overwritten ahead of going back. */
+    /** Every row is overwritten ahead of going back; each part is looked at on an object of its own. */
     private static void imageOfAll() {
+        int otherParts = 0;
+        for (int part = 0; part < PARTS; part++) {
+            TakeOver x = muchTold();
+            Due.is("28: a line of the book", x.look(4), 1);
+            long before = sight(x, part);
+            x.image(true);
+            overwrite(x);
+            Due.yes("28: another book", x.book(0, 0) != 0 && x.book(0, 1) != 0 && x.book(0, 2) != 0);
+            otherParts += sight(x, part) != before ? 1 : 0;
+            x.image(false);
+            Due.is("28: all is as it was", sight(x, part), before);
+        }
+        Due.is("28: parts with another sight between", otherParts, PARTS);
+        imageOfOffersAndLists();
+    }
+
+    private static TakeOver muchTold() {
         TakeOver x = new TakeOver();
         x.bridges(2);
         for (int i = 0; i < 3; i++) {
@@ -482,9 +501,10 @@ public final class ThoughtTest {
         Due.law(x, "leave when weight=7; take;");
         x.set(2, 1, 1);
         x.hours(2);
-        Due.is("28: a line of the book", x.look(4), 1);
-        long before = sight(x);
-        x.image(true);
+        return x;
+    }
+
+    private static void overwrite(TakeOver x) {
         x.bridges(3);
         Due.law(x, "take when room > 9; take when room<5; leave;");
         for (int i = 0; i < 6; i++) {
@@ -497,11 +517,6 @@ public final class ThoughtTest {
             x.fetch(i, 2, 150);
         }
         x.hours(60);
-        Due.yes("28: another book", x.book(0, 0) != 0 && x.book(0, 1) != 0 && x.book(0, 2) != 0);
-        Due.yes("28: another sight", sight(x) != before);
-        x.image(false);
-        Due.is("28: all is as it was", sight(x), before);
-        imageOfOffersAndLists();
     }
 
     private static void imageOfOffersAndLists() {
@@ -526,25 +541,23 @@ public final class ThoughtTest {
         Due.is("28: when it is fetched", x.gathers(1, 6, 0), 0);
     }
 
-    /** A sum over all that can be seen and be thought. */
-    private static long sight(TakeOver x) {
+    /** A sum over a part of all that can be seen and be thought. */
+    private static long sight(TakeOver x, int part) {
         long sum = 7;
-        for (int i = 0; i < 12; i++) {
-            for (int what = 0; what < 12; what++) {
-                sum = sum * 31 + x.of(i, what);
-                sum = sum * 31 + x.who(i, what);
-                sum = sum * 31 + x.waits(i, what);
-                sum = sum * 31 + x.book(i, what);
-                sum = sum * 31 + x.look(what);
-                sum = sum * 31 + x.over(i, what);
-            }
-            sum = sum * 31 + x.back(i);
-            sum = sum * 31 + x.fewest(1 << i, 2, 60, 0);
-            sum = sum * 31 + x.fewest(1 << i, 0, 60, 1);
-            sum = sum * 31 + x.night(i);
-            sum = sum * 31 + x.gathers(i, 25, 1);
-            sum = sum * 31 + x.right(i);
+        for (int what = 0; what < 12; what++) {
+            sum = sum * 31 + x.of(part, what);
+            sum = sum * 31 + x.who(part, what);
+            sum = sum * 31 + x.waits(part, what);
+            sum = sum * 31 + x.book(part, what);
+            sum = sum * 31 + x.look(what);
+            sum = sum * 31 + x.over(part, what);
         }
+        sum = sum * 31 + x.back(part);
+        sum = sum * 31 + x.fewest(1 << part, 2, 60, 0);
+        sum = sum * 31 + x.fewest(1 << part, 0, 60, 1);
+        sum = sum * 31 + x.night(part);
+        sum = sum * 31 + x.gathers(part, 25, 1);
+        sum = sum * 31 + x.right(part);
         return sum;
     }
 
